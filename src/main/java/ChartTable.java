@@ -35,7 +35,7 @@ public final class ChartTable {
     /** Deeper than any scope can be: the least depth of no scopes at all. */
     private static final int NOT_TAKEN = MOST_DEPTH + 1;
 
-    /** The traces of starting stand behind those of all configurations and events. */
+    /** The trace of starting stands behind those of all configurations and events. */
     private static final int START_ROW = MOST_CONFIGURATIONS * MOST_EVENTS;
 
     private final Line text;
@@ -602,12 +602,6 @@ public final class ChartTable {
             this.traces = traces;
         }
 
-        /** From here on marks are noted in that row of the traces. */
-        void noteIn(int traceRow) {
-            row = traceRow;
-            traces.empty(row);
-        }
-
         int currentChild(int state) {
             return state >= 0 && state < MOST_STATES ? currents[state] : NONE;
         }
@@ -618,11 +612,24 @@ public final class ChartTable {
             }
         }
 
-        void start() {
+        /** Starts from all being as at first; the marks are noted in that row of the traces. */
+        void start(int traceRow) {
             for (int state = 0; state < MOST_STATES; state++) {
                 currents[state] = states.currentAtFirst(state);
             }
+            noteIn(traceRow);
             enter(TOP, NONE, 0);
+        }
+
+        /** Offers an event to top; the marks are noted in that row of the traces. */
+        void receive(int event, int traceRow) {
+            noteIn(traceRow);
+            offer(TOP, event, 0);
+        }
+
+        private void noteIn(int traceRow) {
+            row = traceRow;
+            traces.empty(row);
         }
 
         boolean isActive(int state) {
@@ -681,7 +688,7 @@ public final class ChartTable {
          * Offers an event: the least depth of the scopes of the rules that were taken. Such a scope and the
          * child that the rule came from are both above the rule's state, so depths say which is the higher.
          */
-        int offer(int state, int event, int depth) {
+        private int offer(int state, int event, int depth) {
             if (!states.isState(state) || depth > MOST_DEPTH) {
                 return NOT_TAKEN;
             }
@@ -761,32 +768,23 @@ public final class ChartTable {
         /** Whether there is a table then. */
         boolean build() {
             size = 0;
-            walk.noteIn(START_ROW);
-            walk.start();
+            walk.start(START_ROW);
             numberOfWalk();
-            for (int configuration = 0; configuration < MOST_CONFIGURATIONS && configuration < size; configuration++) {
-                if (!fill(configuration)) {
-                    size = 0;
-                    return false;
+            for (int from = 0; from < MOST_CONFIGURATIONS && from < size; from++) {
+                for (int event = 0; event < MOST_EVENTS && event < rules.events(); event++) {
+                    int cell = cellOf(from, event);
+                    setWalk(from);
+                    walk.receive(event, cell);
+                    int follower = numberOfWalk();
+                    if (cell == NONE || follower == NONE) {
+                        size = 0;
+                        return false;
+                    }
+                    followers[cell] = follower;
                 }
             }
             place = 0;
             marksNoted = traces.sizeOf(START_ROW);
-            return true;
-        }
-
-        private boolean fill(int configuration) {
-            for (int event = 0; event < MOST_EVENTS && event < rules.events(); event++) {
-                int cell = cellOf(configuration, event);
-                setWalk(configuration);
-                walk.noteIn(cell);
-                walk.offer(TOP, event, 0);
-                int follower = numberOfWalk();
-                if (cell == NONE || follower == NONE) {
-                    return false;
-                }
-                followers[cell] = follower;
-            }
             return true;
         }
 
@@ -800,16 +798,14 @@ public final class ChartTable {
         }
 
         private void setWalk(int configuration) {
-            if (isConfiguration(configuration)) {
-                for (int state = 0; state < MOST_STATES; state++) {
-                    walk.makeCurrent(state, currents[configuration * MOST_STATES + state]);
-                }
+            for (int state = 0; state < MOST_STATES; state++) {
+                walk.makeCurrent(state, currentChild(configuration, state));
             }
         }
 
         private boolean isWalk(int configuration) {
             for (int state = 0; state < MOST_STATES; state++) {
-                if (currents[configuration * MOST_STATES + state] != walk.currentChild(state)) {
+                if (currentChild(configuration, state) != walk.currentChild(state)) {
                     return false;
                 }
             }

@@ -11,6 +11,7 @@ public final class TermsTest {
         ruleToOwnChildAndToOwnParent();
         ruleBetweenSides();
         innerRulesFirst();
+        rulesOfTheDeepestStates();
         sidesBothTakeRules();
         conditionsSeeWhatHappenedBefore();
         ruleOutOfASideEndsIt();
@@ -149,6 +150,17 @@ public final class TermsTest {
         Probe.due("compiled", x.compile(), 3);
         Probe.due("a's own rule, though it stands behind", x.current(x.next(0, 0), 1), 3);
         Probe.due("p's rule when b has none", x.current(x.next(1, 0), 0), 4);
+    }
+
+    private static void rulesOfTheDeepestStates() {
+        Probe x = Probe.of("state a in top", "state b in a", "state c in b", "state d in c", "state e in d",
+                "state f in e", "state g in e", "exit f f", "enter g g", "on x from e to e do n",
+                "on x from f to g do m", "on y from f to g if f do k", "on z from f to g unless f do l");
+        Probe.due("compiled", x.compile(), 2);
+        Probe.due("the deepest one's rule alone", x.trace(0, 0), "fmg");
+        Probe.due("a condition on the deepest", x.trace(0, 1), "fkg");
+        Probe.due("which does not hold", x.trace(0, 2), "");
+        Probe.due("the one above, when it has none", x.trace(1, 0), "n");
     }
 
     private static void sidesBothTakeRules() {
