@@ -12,15 +12,21 @@ final class Probe {
 
     private static int wrong = 0;
     private static int compared = 0;
+    private static String sentence = "";
 
     private final ChartTable table = new ChartTable();
     private int calls = 0;
+
+    /** Says which sentence of the document the answers from now on are about. */
+    static void sentence(String words) {
+        sentence = words + " | ";
+    }
 
     static void due(String what, long got, long want) {
         compared++;
         if (got != want) {
             wrong++;
-            System.out.println(what + ": answered " + got + ", due is " + want);
+            System.out.println(sentence + what + ": answered " + got + ", due is " + want);
         }
     }
 
@@ -28,7 +34,7 @@ final class Probe {
         compared++;
         if (!got.equals(want)) {
             wrong++;
-            System.out.println(what + ": answered '" + got + "', due is '" + want + "'");
+            System.out.println(sentence + what + ": answered '" + got + "', due is '" + want + "'");
         }
     }
 
