@@ -189,7 +189,8 @@ public final class EdgesOfReadingTest {
             Story.of(FULL_OF_STATES).compiled().refuses(line, Probe.ARGUMENT);
         }
         for (String line : new String[] {"on e from a to top", "on e from a to b", "on z from z to a",
-            "on z from a to a x", "on e from a to a do", "on abcde from a to a", "on z from a to a if z", "enter a abcd", "enter a"}) {
+            "on z from a to a x", "on e from a to a do", "on abcde from a to a", "on z from a to a if z",
+            "enter a abcd", "enter a"}) {
             fullOfRules().refuses(line, Probe.ARGUMENT);
         }
         for (String line : new String[] {"on g from a to top", "on g from a to c", "on g from a to b if c",
