@@ -16,6 +16,7 @@ public final class TermsTest {
         conditionsSeeWhatHappenedBefore();
         ruleOutOfASideEndsIt();
         scopeWithinTheSideDoesNotEndIt();
+        wholesWithinWholes();
         wholeLooksAtItsOwnRulesLast();
         rulesOfStatesThatAreNotActive();
         firstRuleWhoseConditionHolds();
@@ -199,6 +200,19 @@ public final class TermsTest {
         x.compile();
         Probe.due("r goes to n, s is not asked, c goes to d", x.trace(0, 0), "srmxnzd");
         Probe.due("s goes out of w, c is not asked", x.trace(0, 1), "srmyd");
+    }
+
+    /** m's children r and s stand below x, in v, in w: a rule from r to n, both below x, ends m's turn alone. */
+    private static void wholesWithinWholes() {
+        Probe x = Probe.of("state w in top whole", "state v in w whole", "state x in v", "state m in x whole",
+                "state n in x", "state r in m", "state s in m", "state q in v", "state c in q", "state d in q",
+                "state p in w", "state t in p", "enter n n", "exit s s", "exit r r", "enter d d",
+                "on e from r to n do x", "on e from s to n do y", "on e from c to d do z", "on e from t to t do t",
+                "on f from s to r do k", "on f from c to d do z", "on f from t to t do t");
+        Probe.due("compiled", x.compile() > 1, true);
+        Probe.due("r goes to n, s is not asked, c and t are", x.trace(0, 0), "srxnzdt");
+        Probe.due("n has no rule then, d neither", x.trace(x.next(0, 0), 0), "t");
+        Probe.due("s goes round within x, c and t are asked", x.trace(0, 1), "srkzdt");
     }
 
     private static void wholeLooksAtItsOwnRulesLast() {
