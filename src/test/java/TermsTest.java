@@ -7,6 +7,7 @@ public final class TermsTest {
         rememberingAndForgetting();
         rememberingIsEachStatesOwn();
         targetOverridesWhatIsRemembered();
+        targetOnOneSideLeavesTheOtherAsRemembered();
         ruleToItself();
         ruleToOwnChildAndToOwnParent();
         ruleBetweenSides();
@@ -115,6 +116,24 @@ public final class TermsTest {
         Probe.due("to a", x.trace(at, 2), "a");
         Probe.due("a is current then", x.current(x.next(at, 2), 1), 2);
         Probe.due("to b", x.trace(at, 3), "b");
+    }
+
+    /** Behind z, q is entered for none, so with the child that it remembers; p, which forgets, for b or for none. */
+    private static void targetOnOneSideLeavesTheOtherAsRemembered() {
+        Probe x = Probe.of("state w in top whole", "state p in w", "state q in w remember", "state a in p",
+                "state b in p", "state c in q", "state d in q", "state z in top", "enter a a", "enter b b",
+                "enter c c", "enter d d", "on n from a to b", "on n from c to d", "on s from w to z",
+                "on r from z to b", "on t from z to p", "on u from z to c");
+        x.compile();
+        Probe.due("both go on", x.trace(0, 0), "bd");
+        x.event(0);
+        x.event(1);
+        int at = x.count(3);
+        Probe.due("for b: q has d still", x.trace(at, 2), "bd");
+        Probe.due("for p: p has a again", x.trace(at, 3), "ad");
+        Probe.due("for c: q has c", x.trace(at, 4), "ac");
+        Probe.due("back as it was behind n", x.next(at, 2), x.next(0, 0));
+        Probe.due("back as at first", x.next(at, 4), 0);
     }
 
     private static void ruleToItself() {
